@@ -1214,24 +1214,13 @@ public final class ChangePlaces {
 
         private boolean readFact(Tape tape, int depth) {
             boolean bracket = tape.kind() == '[';
-            if (!bracket && tape.kind() != Tape.NOT) {
-                return readComparison(tape);
+            if (bracket || tape.kind() == Tape.NOT) {
+                if (depth >= DEPTH_MOST) {
+                    return tape.fail(TOO_DEEP);
+                }
+                tape.pass();
+                return bracket ? readBracket(tape, depth + 1) : readNot(tape, depth + 1);
             }
-            if (depth >= DEPTH_MOST) {
-                return tape.fail(TOO_DEEP);
-            }
-            tape.pass();
-            if (bracket) {
-                return readTest(tape, depth + 1) && (tape.take(']') || tape.fail(CANT_STAND));
-            }
-            if (!readFact(tape, depth + 1)) {
-                return false;
-            }
-            step(NOT);
-            return true;
-        }
-
-        private boolean readComparison(Tape tape) {
             if (!readSum(tape)) {
                 return false;
             }
@@ -1239,14 +1228,27 @@ public final class ChangePlaces {
             if (deed == NONE) {
                 return tape.fail(CANT_STAND);
             }
-            if (!countPart(tape)) {
-                return false;
+            if (parts >= PARTS_MOST) {
+                return tape.fail(TOO_MANY_PARTS);
             }
+            parts++;
             tape.pass();
             if (!readSum(tape)) {
                 return false;
             }
             step(deed);
+            return true;
+        }
+
+        private boolean readBracket(Tape tape, int depth) {
+            return readTest(tape, depth) && (tape.take(']') || tape.fail(CANT_STAND));
+        }
+
+        private boolean readNot(Tape tape, int depth) {
+            if (!readFact(tape, depth)) {
+                return false;
+            }
+            step(NOT);
             return true;
         }
 
@@ -1265,14 +1267,6 @@ public final class ChangePlaces {
                 default:
                     return NONE;
             }
-        }
-
-        private boolean countPart(Tape tape) {
-            if (parts >= PARTS_MOST) {
-                return tape.fail(TOO_MANY_PARTS);
-            }
-            parts++;
-            return true;
         }
 
         /** As with a TEST: of a SUM what is closer is done first. */
@@ -1309,9 +1303,10 @@ public final class ChangePlaces {
             if (kind == Tape.LONG_NUMBER) {
                 return tape.fail(WRONG_NUMBER);
             }
-            if (!countPart(tape)) {
-                return false;
+            if (parts >= PARTS_MOST) {
+                return tape.fail(TOO_MANY_PARTS);
             }
+            parts++;
             growing = growing || kind == Tape.OWES || kind == Tape.MOVED;
             step(word ? FIRST_WORD + kind - Tape.FIRST_WORD : tape.number());
             tape.pass();
