@@ -544,7 +544,7 @@ public final class ChangePlaces {
         for (int year = 0; year < m; year++) {
             total += liveYear(n, what);
         }
-        laws.askOf(state.now);
+        laws.askAsUsual();
         state.x = before;
         return total;
     }
@@ -827,7 +827,7 @@ public final class ChangePlaces {
             next = 0;
             fault = 0;
             int at = 0;
-            while (at < length) {
+            for (int i = 0; i < TAPE_MOST && at < length; i++) {
                 int sign = byteAt(at);
                 if (isLetter(sign)) {
                     at = cutWord(at);
@@ -1634,10 +1634,15 @@ public final class ChangePlaces {
             edition++;
         }
 
-        /** Whose debts and moves the WORDS tell; of another one nothing is kept that hangs on these. */
+        /** The WORDS tell debts and moves of another one, so nothing is kept that hangs on these. */
         void askOf(Standing other) {
             standing = other;
-            keeping = other == usual || rule == null || !rule.growing;
+            keeping = rule == null || !rule.growing;
+        }
+
+        void askAsUsual() {
+            standing = usual;
+            keeping = true;
         }
 
         int likingOf(int who, int from, int place) {

@@ -165,6 +165,8 @@ public final class PromisesTest {
         lies();
         promise = 40;
         years();
+        promise = 41;
+        counts();
         promise = 42;
         images();
         System.out.println(wrong == 0 ? "all promises hold" : wrong + " answers are not as due");
@@ -252,6 +254,11 @@ public final class PromisesTest {
         countryFault("places 9", 7, 1);
         countryFault("places 000002", 7, 1);
         countryFault("placess 2", 0, 0);
+        countryFault("placesz 2", 0, 0);
+        countryFault("aplaces 2", 0, 0);
+        countryFault(";".repeat(400), 0, 0);
+        countryFault("places 2" + " ".repeat(390) + ";;", 399, 0);
+        countryFault("places 2;" + " ".repeat(391), 400, 0);
         countryFault("Places 2", 0, 0);
         countryFault("plaCes 2", 0, 0);
         countryFault(" pl 2", 1, 0);
@@ -349,6 +356,8 @@ public final class PromisesTest {
         ruleFault("bar notday = 1", 4, 0);
         ruleFault("want -5", 5, 0);
         ruleFault("want 1 + ", 9, 0);
+        ruleFault("bar" + "[".repeat(397), 13, 2);
+        ruleFault("want 1" + ";".repeat(394), 7, 0);
         ruleFault("want 123456", 5, 1);
         ruleFault("want 1+000001", 7, 1);
         ruleFault("want 1 123456", 7, 0);
@@ -632,15 +641,92 @@ public final class PromisesTest {
         due("pay more", x.pay(0, 1, 1), NONE);
         due("count(9)", x.count(9), 0);
         due("person(1, 6)", x.person(1, 6), 0);
+        ChangePlaces debtor = land(THREE);
+        ring(debtor, 0, 1);
+        force(debtor, "want owes");
+        due("liking by owes", debtor.liking(0, 0), 4);
+        debtor.pay(0, 1, 3);
+        due("liking by owes, behind pay", debtor.liking(0, 0), 1);
+        debtor.undo();
+        due("liking by owes, undone", debtor.liking(0, 0), 0);
         promise = 18;
         // The heavier OWES the lighter alone: no ring of debts comes by RINGS.
         ring(x, 1, 2);
         due("strike", x.strike(), 0);
         due("count(9)", x.count(9), 2);
+        struck();
         promise = 19;
         due("dawn", x.dawn(), 2);
         due("dawn", x.dawn(), 3);
         due("count(5)", x.count(5), 3);
+        force(x, "want day");
+        due("liking by day", x.liking(0, 0), 3);
+        x.dawn();
+        due("liking by day", x.liking(0, 0), 4);
+        // So many days no run can have.
+        set(inside(inside(x, "state"), "now"), "day", 9998);
+        due("dawn", x.dawn(), 9999);
+        due("dawn", x.dawn(), NONE);
+        due("count(5)", x.count(5), 9999);
+    }
+
+    private static Object inside(Object object, String field) {
+        try {
+            java.lang.reflect.Field f = object.getClass().getDeclaredField(field);
+            f.setAccessible(true);
+            return f.get(object);
+        } catch (ReflectiveOperationException e) {
+            throw new IllegalStateException(e);
+        }
+    }
+
+    private static void set(Object object, String field, int value) {
+        try {
+            java.lang.reflect.Field f = object.getClass().getDeclaredField(field);
+            f.setAccessible(true);
+            f.setInt(object, value);
+        } catch (ReflectiveOperationException e) {
+            throw new IllegalStateException(e);
+        }
+    }
+
+    private static void lend(ChangePlaces x, int one, int other, int coal) {
+        try {
+            Object now = inside(inside(x, "state"), "now");
+            java.lang.reflect.Method m = now.getClass().getDeclaredMethod("addDebt", int.class, int.class, int.class);
+            m.setAccessible(true);
+            m.invoke(now, one, other, coal);
+        } catch (ReflectiveOperationException e) {
+            throw new IllegalStateException(e);
+        }
+    }
+
+    /** Debts that no RING makes, put in from behind. */
+    private static void struck() {
+        ChangePlaces x = land("places 2" + ";person 0 1".repeat(5));
+        lend(x, 0, 1, 5);
+        lend(x, 1, 2, 4);
+        lend(x, 2, 0, 3);
+        lend(x, 2, 3, 9);
+        lend(x, 3, 1, 2);
+        lend(x, 4, 3, 7);
+        lend(x, 3, 4, 6);
+        force(x, "want owes");
+        // Two first: 3 4 by 6. Of three 0 1 2 ahead of 1 2 3, by 3; then 1 2 3 by 1.
+        due("liking by owes", x.liking(2, 0), 12);
+        due("strike", x.strike(), 12 + 9 + 3);
+        due("owes(4, 3)", x.owes(4, 3), 1);
+        due("owes(3, 4)", x.owes(3, 4), 0);
+        due("owes(0, 1)", x.owes(0, 1), 2);
+        due("owes(1, 2)", x.owes(1, 2), 0);
+        due("owes(2, 0)", x.owes(2, 0), 0);
+        due("owes(2, 3)", x.owes(2, 3), 8);
+        due("owes(3, 1)", x.owes(3, 1), 1);
+        due("person(2, 5)", x.person(2, 5), 8);
+        due("person(3, 6)", x.person(3, 6), 9);
+        due("count(9)", x.count(9), 12);
+        due("liking by owes, behind strike", x.liking(2, 0), 8);
+        due("strike", x.strike(), 0);
     }
 
     private static void books() {
@@ -852,6 +938,18 @@ public final class PromisesTest {
         force(six, RESTLESS);
         due("reached(NONE)", six.reached(NONE), 720);
         due("journey(0, 7)", six.journey(0, 7), -2);
+        // 2000 SITUATIONS, and no more.
+        ChangePlaces brim = land("places 4;person 2 6;person 3 1;person 1 2;person 1 8;person 0 5;person 3 8;"
+                + "person 2 5;person 2 4;person 3 9;person 1 9");
+        force(brim, "want 9 if not to=at;want 0;bar person=3 and to=2;bar person<3 and to>1");
+        promise = 32;
+        due("reached(NONE)", brim.reached(NONE), 2000);
+        due("reached(3)", brim.reached(3), 11);
+        promise = 30;
+        due("journey(3, 2)", brim.journey(3, 2), -2);
+        promise = 34;
+        brim.found(3, 2);
+        due("done(0)", brim.done(0), -2);
     }
 
     private static void founds() {
@@ -911,6 +1009,23 @@ public final class PromisesTest {
         seven.found(5, 4);
         due("done(0), more than 2000 by then", seven.done(0), -3);
         due("done(2)", seven.done(2), -3);
+        // 2000 SITUATIONS by then, and 2001.
+        ChangePlaces edge = land("places 6;person 1 1;person 5 1;person 4 1;person 4 1;person 2 1;person 0 1;"
+                + "person 3 1;person 0 1;person 3 1;bench 8;bench 0;bench 1;bench 7;bench 6;bench 4;"
+                + "wish 5 4 8;wish 3 0 1;wish 2 2 2");
+        edge.found(0, 4);
+        edge.found(8, 5);
+        edge.found(4, 0);
+        edge.found(3, 0);
+        due("done(0)", edge.done(0), 5);
+        edge = land("places 8;person 6 1;person 3 1;person 6 1;person 5 1;person 2 1;person 4 1;person 1 1;"
+                + "person 1 1;person 2 1;bench 7;bench 8;bench 5;bench 6;bench 4;wish 7 6 9;wish 1 2 2;"
+                + "wish 6 1 8;wish 7 3 6;wish 1 0 1;wish 0 4 1;wish 1 1 6;wish 3 6 2;wish 1 3 3;wish 0 2 8;"
+                + "wish 7 5 8;wish 2 2 8;wish 2 1 8;wish 6 0 2");
+        edge.found(4, 4);
+        edge.found(5, 5);
+        edge.found(8, 3);
+        due("done(0)", edge.done(0), -3);
     }
 
     private static void doctors() {
@@ -997,6 +1112,26 @@ public final class PromisesTest {
         // The DRAWS but the first: (21468 9988) (22117 3498) (16927 16045) (19741 12122) mod 3: (0 1) (1 0) ..
         due("years(1, 1, 0)", x.years(1, 1, 0), 1);
         due("seed", x.seed(0), 12345);
+    }
+
+    private static void counts() {
+        ChangePlaces x = land(THREE);
+        force(x, "want wish");
+        ring(x, 0, 1);
+        x.dawn();
+        tell(x, 0, 1);
+        tell(x, 0, 2);
+        x.call(1);
+        x.found(0, 0);
+        x.found(1, 0);
+        x.seed(9);
+        x.feed(1, 2, 3, 4, 5);
+        int[] want = {3, 3, 2, 1, 0, 2, 1, 2, 1, 4, 2, 1, 9, 20};
+        for (int what = 0; what < want.length; what++) {
+            due("count(" + what + ")", x.count(what), want[what]);
+        }
+        due("count(14)", x.count(14), NONE);
+        due("count(-1)", x.count(-1), NONE);
     }
 
     private static void images() {
