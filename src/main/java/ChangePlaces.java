@@ -2108,6 +2108,8 @@ public final class ChangePlaces {
         private final int[] best = new int[SETS];
         private final int[] row = new int[SIZES];
         private int ringCount = 0;
+        // Who is in any RING; all others stay.
+        private int active = 0;
         private int upTo = 0;
         private int settledEdition = 0;
 
@@ -2206,6 +2208,7 @@ public final class ChangePlaces {
                 ringScore[rings[i]] = NO_RING;
             }
             ringCount = 0;
+            active = 0;
             for (int least = 0; least < laws.land.people; least++) {
                 firstRing[least] = ringCount;
                 row[0] = least;
@@ -2237,19 +2240,22 @@ public final class ChangePlaces {
             if (ringScore[set] == NO_RING) {
                 rings[ringCount] = set;
                 ringCount++;
+                active |= set;
             }
             ringScore[set] = Math.max(ringScore[set], score);
         }
 
-        /** Of PEOPLE who are left the least goes first, so of sets with PERSON 0 only the whole is met. */
+        /** Of those who are left the least goes first, so a set is met with its least one and any of the others. */
         private void findBest() {
-            int people = laws.land.people;
             best[0] = 0;
-            for (int least = people - 1; least >= 0; least--) {
-                int sets = 1 << people - 1 - least;
-                for (int others = least == 0 ? sets - 1 : 0; others < sets; others++) {
-                    int set = (others << 1 | 1) << least;
-                    best[set] = bestOf(set, least);
+            for (int least = laws.land.people - 1; least >= 0; least--) {
+                if ((active >> least & 1) != 0) {
+                    int rest = active >> least + 1 << least + 1;
+                    // The least of all is met with all others alone.
+                    boolean whole = rest == (active & ~(1 << least));
+                    for (int others = rest; others >= 0; others = whole || others == 0 ? -1 : (others - 1) & rest) {
+                        best[others | 1 << least] = bestOf(others | 1 << least, least);
+                    }
                 }
             }
         }
@@ -2266,12 +2272,14 @@ public final class ChangePlaces {
         }
 
         private void choose() {
-            int left = (1 << laws.land.people) - 1;
+            for (int person = 0; person < laws.land.people; person++) {
+                takes[person] = person;
+            }
+            int left = active;
             for (int person = 0; person < laws.land.people; person++) {
                 if ((left >> person & 1) == 0) {
                     continue;
                 }
-                takes[person] = person;
                 int set = 1 << person;
                 if (best[left ^ set] != best[left]) {
                     row[0] = person;
