@@ -722,6 +722,7 @@ public final class AskedEdgesTest extends Edges {
         due("two orders", x.done(2), 0);
         founded(x, 1, 2, 3, 0);
         due("three RINGS", x.done(0), 3);
+        due("sixteen ways of three", x.done(2), 0);
         founded(x, 1, 0, 2, 3);
         due("one RING, though more have come", x.done(0), 1);
         due("one way, though others lead there by more RINGS", x.done(2), 1);
