@@ -1142,10 +1142,11 @@ public final class ChangePlaces {
         /** Whether the whole text is sound; if not, the TAPE knows its FAULT. */
         boolean readFrom(Tape tape) {
             length = 0;
+            clauses = 0;
             parts = 0;
             growing = false;
             tape.cut();
-            for (clauses = 0; clauses <= CLAUSES_MOST; clauses++) {
+            for (int told = 0; told <= CLAUSES_MOST; told++) {
                 int clause = tape.kind();
                 if (clause != Tape.BAR && clause != Tape.WANT) {
                     return tape.fail(CANT_STAND);
@@ -1157,8 +1158,8 @@ public final class ChangePlaces {
                 if (!readClause(tape, clause == Tape.BAR)) {
                     return false;
                 }
+                clauses++;
                 if (tape.kind() == Tape.END) {
-                    clauses++;
                     return true;
                 }
                 if (!tape.take(';')) {
@@ -2237,7 +2238,7 @@ public final class ChangePlaces {
         }
 
         private void note(int set, int score) {
-            if (ringScore[set] == NO_RING) {
+            if (ringScore[set] == NO_RING && ringCount < SETS) {
                 rings[ringCount] = set;
                 ringCount++;
                 active |= set;
@@ -2253,8 +2254,13 @@ public final class ChangePlaces {
                     int rest = active >> least + 1 << least + 1;
                     // The least of all is met with all others alone.
                     boolean whole = rest == (active & ~(1 << least));
-                    for (int others = rest; others >= 0; others = whole || others == 0 ? -1 : (others - 1) & rest) {
+                    int others = rest;
+                    for (int met = 0; met < SETS; met++) {
                         best[others | 1 << least] = bestOf(others | 1 << least, least);
+                        if (whole || others == 0) {
+                            break;
+                        }
+                        others = (others - 1) & rest;
                     }
                 }
             }

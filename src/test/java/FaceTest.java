@@ -60,7 +60,34 @@ public final class FaceTest {
             due(fields <= 20, inner + " has " + fields + " fields");
         }
         text();
+        library();
         if (wrong > 0) System.exit(1);
+    }
+
+    /** What the compiled class asks of the library, and whether it could join texts, throw or catch. */
+    private static void library() {
+        Set<String> allowed = Set.of("Object.\"<init>\"", "String.length", "String.charAt", "Math.max", "Math.min",
+                "Integer.bitCount", "System.arraycopy", "Arrays.fill");
+        Path classes = Path.of(ChangePlaces.class.getProtectionDomain().getCodeSource().getLocation().getPath());
+        List<String> files = new ArrayList<>(List.of(classes.resolve("ChangePlaces.class").toString()));
+        for (Class<?> inner : ChangePlaces.class.getDeclaredClasses()) {
+            files.add(classes.resolve(inner.getName() + ".class").toString());
+        }
+        java.io.StringWriter shown = new java.io.StringWriter();
+        List<String> asked = new ArrayList<>(List.of("-c", "-p"));
+        asked.addAll(files);
+        java.io.PrintWriter out = new java.io.PrintWriter(shown);
+        java.util.spi.ToolProvider.findFirst("javap").orElseThrow().run(out, out, asked.toArray(new String[0]));
+        int steps = 0;
+        for (String line : shown.toString().split("\n")) {
+            if (!line.matches("\\s+\\d+: .*")) continue;
+            steps++;
+            due(!line.matches(".*: (athrow|invokedynamic|checkcast|monitorenter|[dfl]rem|lookupswitch.*String).*"), line);
+            java.util.regex.Matcher use = java.util.regex.Pattern.compile("// (?:Interface)?(?:Method|Field) java/(?:\\w+/)+([\\w.\"<>]+):").matcher(line);
+            if (use.find()) due(allowed.contains(use.group(1)), line);
+        }
+        due(steps > 3000, "only " + steps + " steps were seen");
+        due(!shown.toString().contains("Exception table"), "the class catches something");
     }
 
     private static void text() throws Exception {
